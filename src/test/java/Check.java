@@ -1,0 +1,60 @@
+import java.util.Objects;
+
+/** Counts and prints the answers that are not the ones that are due. */
+final class Check {
+    interface Call {
+        Object answer();
+    }
+
+    private int wrong = 0;
+    private int count = 0;
+
+    /** The answer of a call, or "throws " with the name of the exception's class. */
+    static Object outcome(Call call) {
+        try {
+            return call.answer();
+        } catch (RuntimeException e) {
+            return "throws " + e.getClass().getSimpleName();
+        }
+    }
+
+    /** Numbers are compared as longs, doubles by their bits. */
+    void due(String what, Object got, Object want) {
+        count++;
+        if (!Objects.equals(plain(got), plain(want))) {
+            wrong++;
+            System.out.println(what + " answered " + got + ", due is " + want);
+        }
+    }
+
+    void call(String what, Call call, Object want) {
+        due(what, outcome(call), want);
+    }
+
+    void index(String what, Call call) {
+        call(what, call, "throws IndexOutOfBoundsException");
+    }
+
+    void argument(String what, Call call) {
+        call(what, call, "throws IllegalArgumentException");
+    }
+
+    void arithmetic(String what, Call call) {
+        call(what, call, "throws ArithmeticException");
+    }
+
+    int wrong() {
+        return wrong;
+    }
+
+    void finish() {
+        System.out.println(count + " answers looked at, " + wrong + " wrong");
+        if (wrong != 0) {
+            System.exit(1);
+        }
+    }
+
+    private static Object plain(Object value) {
+        return value instanceof Integer ? Long.valueOf((Integer) value) : value;
+    }
+}
