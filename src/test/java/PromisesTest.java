@@ -26,6 +26,7 @@ public final class PromisesTest {
         greatestRate();
         greatestEqual();
         bestPair();
+        ratesOfThinGrids();
         relax();
         relaxLooseCells();
         relaxed();
@@ -33,6 +34,7 @@ public final class PromisesTest {
         undo();
         undoRestoresEverything();
         digest();
+        digestOfPowersOfTwo();
         digestOfSmallHeads();
         digestOfDriftingHeads();
         throwingChangesNothing();
@@ -242,8 +244,8 @@ public final class PromisesTest {
         CHECK.arithmetic("8 loose head(4, 0)", () -> loose().head(4, 0));
     }
 
-    /** The greatest heads of all: nine cells in a chain with one edge point. */
-    private static void headOfThinGrids() {
+    /** The nine cells in a chain, with one edge point at the beginning. */
+    private static HeadGrid chain() {
         HeadGrid g = new HeadGrid();
         for (int link = 0; link < 24; link++) {
             g.setLink(link, 0);
@@ -252,6 +254,12 @@ public final class PromisesTest {
         for (int link : chain) {
             g.setLink(link, 1);
         }
+        return g;
+    }
+
+    /** The greatest heads of all. */
+    private static void headOfThinGrids() {
+        HeadGrid g = chain();
         for (int cell = 0; cell < 9; cell++) {
             g.setRecharge(cell, 1000);
         }
@@ -528,6 +536,18 @@ public final class PromisesTest {
         CHECK.arithmetic("19 loose bestPair(0, 1)", () -> loose().bestPair(0, 1));
     }
 
+    private static void ratesOfThinGrids() {
+        HeadGrid g = chain();
+        CHECK.call("17 at the beginning of a chain", () -> g.greatestRate(0), 100);
+        CHECK.call("17 at its end", () -> g.greatestRate(8), 11);
+        CHECK.call("18 all of a chain", () -> g.greatestEqual(511), 2);
+        CHECK.call("19 beginning and end", () -> g.bestPair(0, 8), 1000000);
+        CHECK.call("19 end and beginning", () -> g.bestPair(8, 0), 100);
+        g.setLevels(0, 0, 100);
+        CHECK.call("17 nothing may flow", () -> g.greatestRate(8), 0);
+        CHECK.call("19 nothing may flow", () -> g.bestPair(8, 7), 0);
+    }
+
     // Promises 20 to 22
 
     private static void relax() {
@@ -688,6 +708,29 @@ public final class PromisesTest {
         a.setRate(0, 0);
         CHECK.call("24 the number of saved states", () -> a.digest(), first + 1);
         CHECK.call("24 the same again", () -> a.digest(), first + 1);
+    }
+
+    /** A power of two has no bits behind the first, and its neighbours have all or one. */
+    private static void digestOfPowersOfTwo() {
+        HeadGrid g = new HeadGrid();
+        ReferenceGrid r = new ReferenceGrid();
+        for (int point = 0; point < 12; point++) {
+            g.setEdge(point, 0);
+            r.setEdge(point, 0);
+        }
+        for (int load = 1; load <= 512; load *= 2) {
+            g.setRecharge(0, load);
+            r.setRecharge(0, load);
+            for (int rate = 0; rate < 3; rate++) {
+                g.setRate(0, rate);
+                r.setRate(0, rate);
+                CHECK.due("24 change of a power of two", g.relax(1), r.relax(1));
+                CHECK.due("24 bits of a power of two", g.digest(), r.digest());
+                g.undo();
+                r.undo();
+            }
+            CHECK.due("24 undone", g.digest(), r.digest());
+        }
     }
 
     /** Heads that decay to 0, from above and from below, pass through subnormal numbers and -0.0. */
