@@ -43,6 +43,36 @@ final class Check {
         call(what, call, "throws ArithmeticException");
     }
 
+    /**
+     * A run of calls on a new object, written as in the document: "call = answer; call = answer". The reference makes
+     * the same run, so that a wrong answer that is due here shows.
+     */
+    void run(String sentence, String... rows) {
+        play(sentence, Asked.grid(), rows);
+        play(sentence + " [reference]", Asked.reference(), rows);
+    }
+
+    private void play(String sentence, Asked asked, String[] rows) {
+        for (String row : String.join(";", rows).split(";")) {
+            if (row.isBlank()) {
+                continue;
+            }
+            String[] sides = row.split("=");
+            String answer = asked.answer(sides[0].trim());
+            String want = sides.length > 1 ? sides[1].trim() : answer.startsWith("throws") ? "no exception" : answer;
+            due(sentence + ": " + sides[0].trim(), answer, want);
+        }
+    }
+
+    /** Rows of a run for 0 to count - 1, which stand where the pattern has "#". */
+    static String each(String pattern, int count) {
+        StringBuilder rows = new StringBuilder();
+        for (int i = 0; i < count; i++) {
+            rows.append(pattern.replace("#", Integer.toString(i))).append(';');
+        }
+        return rows.toString();
+    }
+
     int wrong() {
         return wrong;
     }

@@ -762,7 +762,7 @@ public final class PromisesTest {
                 CHECK.due("24 change near zero", g.relax(1), r.relax(1));
                 CHECK.due("24 bits near zero", g.digest(), r.digest());
                 for (int cell = 0; cell < 9; cell++) {
-                    double h = g.relaxed(cell);
+                    double h = r.relaxed(cell);
                     minusZero |= Double.doubleToLongBits(h) == Long.MIN_VALUE;
                     subnormal |= h != 0.0 && Math.abs(h) < Double.MIN_NORMAL;
                 }
